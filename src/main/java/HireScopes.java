@@ -10,7 +10,7 @@ public final class HireScopes {
     // A RUN of 160 STEPS can't make more LOANS than STEPS, nor hold more BLOCKS than its ACTS can nest.
     private static final int MOST_LOANS = MOST_STEPS, MOST_BLOCKS = MOST_DEPTH * (MOST_NESTED + 1);
 
-    // Each move but one a BLOCK's end is a STEP, so no RUN comes near this.
+    // Each move is a STEP, or ends or leaves a BLOCK that a STEP began, so no RUN comes near this.
     private static final int MOST_MOVES = 1000000;
 
     private static final int ON_RACK = 0, LENT = 1, IN_CLEANING = 2, LOST = 3;
@@ -215,7 +215,6 @@ public final class HireScopes {
         final int cents;
         int state;
         int customer;
-        boolean held;
         final int[] traceActs;
         final int[] traceLines;
         int traceLength;
@@ -243,6 +242,7 @@ public final class HireScopes {
         private int partCount;
         private final int[] cleaning = new int[MOST_PARTS];
         private int cleaningCount;
+        // The PARTS of the OPEN LONG LOANS, in the order that these were made in.
         private final int[] held = new int[MOST_PARTS];
         private int heldCount;
         private final long[] charged = new long[CUSTOMERS];
@@ -299,8 +299,7 @@ public final class HireScopes {
             part.state = LENT;
             part.customer = customer;
             part.traceLength = 0;
-            part.held = asLong && within(heldCount, MOST_PARTS);
-            if (part.held) {
+            if (asLong && within(heldCount, MOST_PARTS)) {
                 held[heldCount] = part.number;
                 heldCount++;
             }
@@ -309,9 +308,7 @@ public final class HireScopes {
         /** A PART comes back from its PLAIN or LONG LOAN; answers whether it was TORN and so is LOST. */
         boolean takeBack(Part part, int how) {
             boolean torn = plans.meets(part.number, AT_GIVING_BACK);
-            if (part.held) {
-                holdNoMore(part);
-            }
+            holdNoMore(part);
             if (torn) {
                 part.state = LOST;
                 charge(part);
@@ -345,7 +342,6 @@ public final class HireScopes {
                 }
             }
             heldCount = kept;
-            part.held = false;
         }
 
         long deposit(int customer) {
@@ -1008,7 +1004,7 @@ public final class HireScopes {
             }
         }
 
-        /** The KIND of MISUSE that an OP with this LOAN is, or NOTHING; free: the OP needs it without an OPEN SUB-LOAN. */
+        /** The KIND of MISUSE of a LOAN, or NOTHING; free: it has to be without an OPEN SUB-LOAN. */
         private static int misuseOf(Loan loan, boolean free) {
             if (loan == null || !loan.open) {
                 return OVER;
@@ -1220,8 +1216,6 @@ public final class HireScopes {
                 }
                 scopesEnded++;
             }
-            castCount = 0;
-            blockCount = 0;
         }
     }
 }

@@ -84,6 +84,12 @@ public final class OpsTest {
         Due.add(x, n, 1, 0, 39);
         Due.due("a SORT that no PART has", 1, x.run(n, 0));
         Due.failure(x, "a SORT that no PART has", 0, 7, n, 0, -1, -1, -1);
+        HireScopes full = house(60);
+        int all = Due.script(full, 1, 0, 2, 1, 0, 0, 1, 0, 39);
+        Due.due("run", 1, full.run(all, 0));
+        Due.failure(full, "a SORT that none of 60 PARTS has", 0, 7, all, 2, -1, -1, -1);
+        Due.due("PART 0 is a first one, too", 0, full.cleaning(0));
+        Due.due("PART 2 is the first of its SORT", 2, full.cleaning(1));
     }
 
     private static void hold() {
@@ -178,6 +184,11 @@ public final class OpsTest {
         Due.add(x, n, 2, 0, 0, 6, 0, 0);
         Due.due("run", 1, x.run(n, 0));
         Due.failure(x, "a LONG LOAN", 0, 4, n, 1, 0, -1, -1);
+        // one with an OPEN SUB-LOAN may be passed, too
+        x.wipe(n);
+        Due.add(x, n, 12, 0, 0, 0, 0, 2, 5, 0, 1, 6, 0, 1, 16, 0, 0, 3, 0, 0, 3, 1, 0);
+        Due.due("run", 1, x.run(n, 0));
+        Due.failure(x, "one with a SUB-LOAN", 0, 3, n, 6, 2, -1, -1);
         // a LOAN before its SUB-LOAN, in another SCOPE: the SUB-LOAN goes with it
         x.wipe(n);
         Due.add(x, n, 12, 0, 0, 0, 0, 1, 5, 0, 1, 6, 1, 1, 16, 0, 0, 3, 1, 0);
@@ -198,7 +209,7 @@ public final class OpsTest {
     }
 
     private static void calls() {
-        HireScopes x = house(2);
+        HireScopes x = house(4);
         int outer = Due.script(x, 0, 5, 0, 7, 1, 5, 3, 5, 0, 7, 1, 4);
         int inner = Due.script(x, 3, 0, 0, 9, 0, 0, 8, 0, 0);
         Due.due("run", 1, x.run(outer, 0));
@@ -211,6 +222,21 @@ public final class OpsTest {
         Due.due("run", 1, x.run(outer, 0));
         Due.failure(x, "SLOTS of its own", 0, 3, inner, 2, -1, -1, -1);
         x.clean(60);
+        // and each time NOTHING at first, in the next CALL, and in the next RUN
+        x.wipe(outer);
+        Due.add(x, outer, 11, 2, 0, 7, inner, 0, 16, 0, 0);
+        x.wipe(inner);
+        Due.add(x, inner, 13, 0, 0, 3, 7, 0, 14, 3, 0, 1, 7, 0, 16, 0, 0);
+        Due.due("run", 0, x.run(outer, 0));
+        for (int i = 0; i < 2; i++) {
+            Due.failure(x, "NOTHING at first", i, 3, inner, 1, -1, -1, -1);
+        }
+        x.clean(60);
+        Due.due("run", 0, x.run(inner, 0));
+        Due.failure(x, "NOTHING at first in a RUN", 0, 3, inner, 1, -1, -1, -1);
+        x.clean(60);
+        x.wipe(outer);
+        Due.add(x, outer, 0, 5, 0, 7, 1, 5, 3, 5, 0, 7, 1, 4);
         int[] calls = {1, 2, 11};
         x.wipe(inner);
         x.line(inner, 16, 0, 0);
@@ -239,6 +265,26 @@ public final class OpsTest {
         x.line(9, 7, 11, 0);
         Due.due("run", 1, x.run(0, 0));
         Due.failure(x, "the 10th CALL", 0, 8, 9, 0, -1, -1, -1);
+        // ten ACTS with eight SCOPES each are 90 SCOPES at once
+        for (int n = 0; n < 10; n++) {
+            x.wipe(n);
+            for (int i = 0; i < 8; i++) {
+                x.line(n, 12, 0, 0);
+            }
+            x.line(n, 7, n + 1, 0);
+            for (int i = 0; i < 8; i++) {
+                x.line(n, 16, 0, 0);
+            }
+        }
+        x.wipe(9);
+        Due.add(x, 9, 12, 0, 0, 12, 0, 0, 12, 0, 0, 12, 0, 0, 12, 0, 0, 12, 0, 0, 12, 0, 0, 12, 0, 0, 0, 0, 0, 6, 0, 9, 7, 0, 0);
+        for (int i = 0; i < 8; i++) {
+            x.line(9, 16, 0, 0);
+        }
+        Due.due("run", 1, x.run(0, 0));
+        Due.ran(x, "90 SCOPES", 1, 92, 1, 1, 90, 0, 0);
+        Due.failure(x, "90 SCOPES", 0, 8, 9, 10, -1, -1, -1);
+        Due.due("all ended", 2, x.state(0));
     }
 
     /** FAIL may be of any KIND. */
@@ -260,6 +306,11 @@ public final class OpsTest {
         int n = Due.script(x, 11, 0, 0, 8, 0, 0, 16, 0, 0);
         Due.due("LOOP 0", 0, x.run(n, 0));
         Due.ran(x, "LOOP 0", 0, 1, 0, 0, 1);
+        x.wipe(n);
+        Due.add(x, n, 11, 0, 0, 12, 0, 0, 8, 0, 0, 16, 0, 0, 16, 0, 0, 12, 0, 0, 3, 0, 0, 16, 0, 0);
+        Due.due("behind LOOP 0", 1, x.run(n, 0));
+        Due.ran(x, "behind LOOP 0", 1, 3, 1, 0, 2);
+        Due.failure(x, "behind LOOP 0", 0, 3, n, 6, -1, -1, -1);
         x.wipe(n);
         Due.add(x, n, 11, 1, 0, 12, 0, 0, 16, 0, 0, 16, 0, 0);
         Due.due("LOOP 1", 0, x.run(n, 0));
