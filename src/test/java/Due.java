@@ -56,4 +56,21 @@ final class Due {
             due(name + ": log(" + i + ", " + what + ")", want[what], x.log(i, what));
         }
     }
+
+    /** THE CLEANING: these PARTS in this order, and no more. */
+    static void cleaning(HireScopes x, String name, int... want) {
+        for (int i = 0; i < want.length; i++) {
+            due(name + ": cleaning(" + i + ")", want[i], x.cleaning(i));
+        }
+        due(name + ": cleaning(" + want.length + ")", HireScopes.NOTHING, x.cleaning(want.length));
+    }
+
+    /** A house of so many PARTS of SORT 0, each worth ten cents. */
+    static HireScopes house(int parts) {
+        HireScopes x = new HireScopes();
+        for (int p = 0; p < parts; p++) {
+            x.part(0, 10);
+        }
+        return x;
+    }
 }
