@@ -29,6 +29,7 @@ public final class SpentEdgesTest {
         tornBySpentIsLost();
         longLoansAndTheirSubLoans();
         nextRunBeginsAnew();
+        manySpentRuns();
         Due.end();
     }
 
@@ -433,5 +434,23 @@ public final class SpentEdgesTest {
             Lines.anew(x, n).loop(20).scopes(7).ends(8).returns();
             Due.due("and one more", 2, x.run(n, 0));
         }
+    }
+
+    /** What one RUN left SPENT, its BLOCKS and ACTS under way, is nothing to the next: 90 BLOCKS may be again. */
+    private static void manySpentRuns() {
+        HireScopes x = Due.house(1);
+        for (int n = 0; n < 9; n++) {
+            Lines.of(x).scopes(8).call(n + 1, 0).ends(8);
+        }
+        Lines.of(x).borrow(0, 0).scopes(6).loop(20).loop(20).ends(8);
+        for (int i = 0; i < 40; i++) {
+            Due.due("RUN " + i, 2, x.run(0, 0));
+            x.clean(60);
+        }
+        Due.ran(x, "the 40th", 2, 160, 0, 1, 88, 0, NOTHING);
+        Lines.anew(x, 9).scopes(7).borrow(0, 0).pass(0, 9).ends(7);
+        Due.due("the 41st", 0, x.run(0, 0));
+        Due.ran(x, "the 41st", 0, 90, 0, 1, 89, 0, NOTHING);
+        Due.log(x, "the 41st", 0, 0, 1, 0);
     }
 }
