@@ -340,6 +340,7 @@ public final class ActEdgesTest {
         Due.failure(x, "so the CALL is CLOSED", 0, 4, 1, 1, NOTHING, NOTHING, NOTHING);
     }
 
+    /** "4 BREAK within no LOOP of this ACT": within one it is none, however deep, in each WAY of a TRY. */
     private static void breakWithinLoop() {
         HireScopes x = new HireScopes();
         x.act();

@@ -102,6 +102,7 @@ public final class LeakEdgesTest {
         }
     }
 
+    /** "UNKNOWN (no such .. thing)": of LEAKS that are none, at first and when all were given back. */
     private static void noLeaks() {
         HireScopes x = Due.house(1);
         for (int i = 0; i < 2; i++) {
@@ -164,6 +165,7 @@ public final class LeakEdgesTest {
         }
     }
 
+    /** "LONG LOANS stay OPEN behind the RUN": one that BACK gave back is no LEAK. */
     private static void leaksThatWereGivenBackInTheRun() {
         HireScopes x = Due.house(3);
         int n = Lines.of(x).hold(0, 0).hold(1, 1).hold(2, 2).back(1).act;
@@ -194,6 +196,7 @@ public final class LeakEdgesTest {
         }
     }
 
+    /** "leaks(): How many LEAKS": as many as there may be PARTS, the first and the last of them. */
     private static void sixtyLeaks() {
         HireScopes x = Due.house(60);
         int n = x.act();
@@ -331,6 +334,7 @@ public final class LeakEdgesTest {
         Due.due("giveBack(0) again", UNKNOWN, x.giveBack(0));
     }
 
+    /** "of a PLAIN or LONG one the PART goes to THE CLEANING", by giveBack(), too. */
     private static void givenBackGoesToTheCleaning() {
         HireScopes x = Due.house(3);
         x.run(Lines.of(x).hold(0, 0).hold(0, 1).borrow(0, 2).act, 6);
@@ -448,6 +452,7 @@ public final class LeakEdgesTest {
         }
     }
 
+    /** "THE LOG: each giving back of a PLAIN, LONG LOAN": of a SUB-LOAN alone none, so it is empty yet. */
     private static void logIsEmpty() {
         HireScopes x = Due.house(1);
         x.run(Lines.of(x).hold(0, 0).lend(0, 1).act, 0);

@@ -72,6 +72,7 @@ public final class OpEdgesTest {
         takenBy(0);
     }
 
+    /** "2 TAKEN: of .. HOLD a PART that is not on its RACK, or that there is not": the same of HOLD. */
     private static void holdTaken() {
         takenBy(2);
     }
@@ -313,6 +314,7 @@ public final class OpEdgesTest {
         Due.ran(x, "20 CALLS that returned", 0, 49, 0, 0, 30, 0, NOTHING);
     }
 
+    /** "CALL n s: ACT n (0 .. 11)": its own number, too, till it is DEEP. */
     private static void callOfItself() {
         HireScopes x = new HireScopes();
         int n = Lines.of(x).call(0, 7).act;

@@ -264,6 +264,7 @@ public final class PartEdgesTest {
         Due.due("plan(0, 20, 1)", 4, x.plan(0, 20, 1));
     }
 
+    /** "at its n-th (1 .. 20) USE": at the first, and at the 20th but not the 19th. */
     private static void firstAndTwentiethUse() {
         HireScopes x = Due.house(1);
         int one = Lines.of(x).borrow(0, 0).use(0).act;
@@ -282,6 +283,7 @@ public final class PartEdgesTest {
         Due.due("the 21st USE", 0, x.run(one, 0));
     }
 
+    /** "at its n-th (1 .. 20) .. giving back (1)": at the first, and at the 20th but not the 19th. */
     private static void firstAndTwentiethGivingBack() {
         HireScopes x = Due.house(2);
         int n = Lines.of(x).borrow(0, 0).act;

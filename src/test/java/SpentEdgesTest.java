@@ -207,6 +207,7 @@ public final class SpentEdgesTest {
         }
     }
 
+    /** "the 17th FAILURE that would be": DEEP, that a CALL in the tenth ACT FAILS by. */
     private static void deepAsTheSeventeenth() {
         HireScopes x = Due.house(2);
         failures(x, 16).call(1, 0);

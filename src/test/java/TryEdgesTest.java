@@ -339,6 +339,7 @@ public final class TryEdgesTest {
         }
     }
 
+    /** "its WAY is done", of a TRY without FINISH: what the WAY is left by goes on behind the TRY. */
     private static void wayWithoutLastWay() {
         for (int way : WAYS) {
             HireScopes x = new HireScopes();
@@ -350,6 +351,7 @@ public final class TryEdgesTest {
         }
     }
 
+    /** A BODY of a TRY without FINISH, whose GUARD has none: what it is left by goes on behind the TRY. */
     private static void bodyWithoutLastWay() {
         for (int way : WAYS) {
             HireScopes x = new HireScopes();
@@ -372,6 +374,7 @@ public final class TryEdgesTest {
         Due.due("one PART was taken", NOTHING, x.log(1, 0));
     }
 
+    /** "on each way out of BODY": by a FAILURE that no GUARD of the TRY has, before one around has it. */
     private static void lastWayOfAFailureThatIsNotGuarded() {
         HireScopes x = Due.house(1);
         int n = Lines.of(x).tries().tries().fail(7).guard(8).fail(0).finish().hold(0, 0).end().guard(7).use(0).end().act;
@@ -455,6 +458,7 @@ public final class TryEdgesTest {
         }
     }
 
+    /** "when it ends by END, what was on its way goes on": a BREAK of a LOOP within the LAST WAY ends no more than that. */
     private static void breakOfALoopInALastWay() {
         HireScopes x = new HireScopes();
         int n = Lines.of(x).loop(2).tries().returns().finish().loop(5).breaks().end().end().scope().end().end().act;
